@@ -12,6 +12,7 @@ public final class LockerChains {
     private static final int LARGEST_SIZE = 2;
     private static final int ANY_SIZE = 3;
     private static final int ROW_PLACES = 4;
+    private static final int LONGEST_RING = 3;
 
     private static final int LOAN_DAYS = 0;
     private static final int MOST_RENEWALS = 1;
@@ -311,16 +312,12 @@ public final class LockerChains {
         private final int[] sizes = new int[MAX_PEOPLE];
         private int length;
 
-        private boolean has(int place) {
-            return place >= 0 && place < length && place < MAX_PEOPLE;
-        }
-
         int personAt(int place) {
-            return has(place) ? people[place] : NONE;
+            return place >= 0 && place < length && place < MAX_PEOPLE ? people[place] : NONE;
         }
 
         int sizeAt(int place) {
-            return has(place) ? sizes[place] : NONE;
+            return place >= 0 && place < length && place < MAX_PEOPLE ? sizes[place] : NONE;
         }
 
         int placeOf(int person) {
@@ -333,7 +330,22 @@ public final class LockerChains {
         }
 
         int sizeOf(int person) {
-            return sizeAt(placeOf(person));
+            for (int i = 0; i < length && i < MAX_PEOPLE; i++) {
+                if (people[i] == person) {
+                    return sizes[i];
+                }
+            }
+            return NONE;
+        }
+
+        /** The first who came for a size or for any. */
+        int firstFor(int size) {
+            for (int i = 0; i < length && i < MAX_PEOPLE; i++) {
+                if (sizes[i] == size || sizes[i] == ANY_SIZE) {
+                    return people[i];
+                }
+            }
+            return NONE;
         }
 
         void add(int person, int size) {
@@ -372,6 +384,8 @@ public final class LockerChains {
         private final Line waiting = new Line();
         private final Line wishes = new Line();
         private final int[] settings = new int[SETTINGS];
+        // No state: the ring that was found last, here only so that it is made once.
+        private final int[] ring = new int[LONGEST_RING];
         private int lockerCount;
         private int personCount;
         private int day;
@@ -500,7 +514,7 @@ public final class LockerChains {
                 return INVALID_ARGUMENT;
             }
             Locker own = lockerAt(who.locker);
-            if (own == null || who.overdueOn(day) > 0 || firstWaitingFor(own.size) != null) {
+            if (own == null || who.overdueOn(day) > 0 || waiting.firstFor(own.size) != NONE) {
                 return NOT_POSSIBLE;
             }
             if (who.renewals >= settings[MOST_RENEWALS]) {
@@ -570,20 +584,21 @@ public final class LockerChains {
         }
 
         int swapAll() {
-            int people = 0;
+            int movedNow = 0;
             // Each step but the last ends a wish at least, so there are not more steps than people and one.
             for (int step = 0; step <= MAX_PEOPLE; step++) {
                 int movers = moveToFree();
                 if (movers == 0) {
-                    movers = moveRing();
+                    movers = findRing();
+                    moveAround(movers);
                 }
                 if (movers == 0) {
                     break;
                 }
-                people += movers;
+                movedNow += movers;
             }
-            moved += people;
-            return people;
+            moved += movedNow;
+            return movedNow;
         }
 
         private int moveToFree() {
@@ -601,13 +616,23 @@ public final class LockerChains {
             return 0;
         }
 
-        private int moveRing() {
-            for (int first = 0; first < personCount; first++) {
-                for (int second = first + 1; second < personCount; second++) {
-                    if (wants(first, second)) {
-                        int movers = moveRingOf(first, second);
-                        if (movers > 0) {
-                            return movers;
+        /** Puts the people of the ring that is ahead of all others into ring; returns how many they are. */
+        private int findRing() {
+            for (int first = 0; first < MAX_PEOPLE; first++) {
+                for (int second = first + 1; second < MAX_PEOPLE; second++) {
+                    if (!wants(people[first], people[second])) {
+                        continue;
+                    }
+                    ring[0] = first;
+                    ring[1] = second;
+                    if (wants(people[second], people[first])) {
+                        return 2;
+                    }
+                    for (int third = first + 1; third < MAX_PEOPLE; third++) {
+                        if (third != second && wants(people[second], people[third])
+                            && wants(people[third], people[first])) {
+                            ring[2] = third;
+                            return 3;
                         }
                     }
                 }
@@ -615,36 +640,17 @@ public final class LockerChains {
             return 0;
         }
 
-        private int moveRingOf(int first, int second) {
-            if (wants(second, first)) {
-                moveAround(first, second, NONE);
-                return 2;
-            }
-            for (int third = first + 1; third < personCount; third++) {
-                if (third != second && wants(second, third) && wants(third, first)) {
-                    moveAround(first, second, third);
-                    return 3;
-                }
-            }
-            return 0;
+        private boolean wants(Person who, Person next) {
+            Locker locker = lockerAt(next.locker);
+            return locker != null && wishes.sizeOf(who.number) == locker.size;
         }
 
-        private boolean wants(int number, int other) {
-            Locker locker = lockerOfPerson(other);
-            return locker != null && wishes.sizeOf(number) == locker.size;
-        }
-
-        /** Moves each to the locker of the next, the last to that of the first; a third may be none. */
-        private void moveAround(int first, int second, int third) {
-            Locker ofFirst = lockerOfPerson(first);
-            Locker ofSecond = lockerOfPerson(second);
-            Locker ofThird = lockerOfPerson(third);
-            move(first, ofSecond);
-            if (third == NONE) {
-                move(second, ofFirst);
-            } else {
-                move(second, ofThird);
-                move(third, ofFirst);
+        /** Moves each of the ring to the locker of the next, the last to that of the first. */
+        private void moveAround(int movers) {
+            Locker ofFirst = lockerOfPerson(ring[0]);
+            for (int i = 0; i < movers && i < LONGEST_RING; i++) {
+                boolean hasNext = i + 1 < movers && i + 1 < LONGEST_RING;
+                move(ring[i], hasNext ? lockerOfPerson(ring[i + 1]) : ofFirst);
             }
         }
 
@@ -692,9 +698,9 @@ public final class LockerChains {
             int opened = 0;
             for (int i = 0; i < MAX_PEOPLE; i++) {
                 Person who = people[i];
-                Locker own = lockerAt(who.locker);
                 int overdue = who.overdueOn(day);
-                if (own != null && overdue > 0) {
+                Locker own = overdue > 0 ? lockerAt(who.locker) : null;
+                if (own != null) {
                     who.owed += feeOfDay(overdue) * (own.size + 1);
                     if (overdue >= OPENING_DAY) {
                         who.owed += settings[OPENING_COST];
@@ -749,19 +755,9 @@ public final class LockerChains {
             return null;
         }
 
-        private Person firstWaitingFor(int size) {
-            for (int i = 0; i < waiting.length; i++) {
-                int wanted = waiting.sizeAt(i);
-                if (wanted == size || wanted == ANY_SIZE) {
-                    return personAt(waiting.personAt(i));
-                }
-            }
-            return null;
-        }
-
         /** Gives a locker that has become free to the first who waits for it. */
         private void offer(Locker locker) {
-            Person who = firstWaitingFor(locker.size);
+            Person who = personAt(waiting.firstFor(locker.size));
             if (who != null && locker.isFree()) {
                 waiting.remove(who.number);
                 beginLoan(who, locker);

@@ -15,6 +15,7 @@ public final class LoansTest {
         opening();
         passLimits();
         closedLockersOpenByNumber();
+        closedLockersAheadOfPeople();
         set();
         due.end();
     }
@@ -276,6 +277,24 @@ public final class LoansTest {
         due.is("personOf(1, 0)", x.personOf(1, 0), 0);
         due.is("personOf(0, 0)", x.personOf(0, 0), 1);
         due.is("count(5)", x.count(5), 0);
+    }
+
+    private static void closedLockersAheadOfPeople() {
+        due.part("promise 13, closed ones ahead of people");
+        LockerChains x = Halls.with(4, 0, 0);
+        x.lend(0, 0);
+        x.lend(1, 0);
+        x.lend(2, 0);
+        x.lend(3, 0);
+        x.pass(28);
+        x.lose(1);
+        x.lose(1);
+        due.is("open again", x.lockerOf(1, 5), 31);
+        due.is("pass(3)", x.pass(3), 1);
+        due.is("personOf(2, 0)", x.personOf(2, 0), 1);
+        due.is("personOf(3, 0)", x.personOf(3, 0), 0);
+        due.is("personOf(1, 7)", x.personOf(1, 7), 0);
+        due.is("count(3)", x.count(3), 0);
     }
 
     private static void set() {

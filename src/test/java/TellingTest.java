@@ -253,6 +253,10 @@ public final class TellingTest {
                 x.pass(40);
                 break;
             case 3:
+                x.set(0, 1);
+                x.undo();
+                x.set(1, 1);
+                x.undo();
                 x.set(2, 1);
                 break;
             case 4:

@@ -10,6 +10,7 @@ public final class WishesTest {
         firstWishFirst();
         chain();
         oldLockerToWhoWaits();
+        freeAheadOfRing();
         ringOfTwo();
         ringOfThree();
         ringWithTheLowest();
@@ -134,6 +135,19 @@ public final class WishesTest {
         due.is("count(7)", x.count(7), 1);
         due.is("count(11)", x.count(11), 1);
         due.is("lent", x.lockerOf(0, 6), 2);
+    }
+
+    private static void freeAheadOfRing() {
+        due.part("promise 11, a free one ahead of a ring");
+        LockerChains x = Halls.with(2, 0, 1, 1);
+        x.lend(0, 0);
+        x.lend(1, 1);
+        x.wish(0, 1);
+        x.wish(1, 0);
+        due.is("swap()", x.swap(), 2);
+        due.is("personOf(0, 0)", x.personOf(0, 0), 2);
+        due.is("personOf(1, 0)", x.personOf(1, 0), 0);
+        due.is("free", x.lockerOf(1, 3), 1);
     }
 
     private static void ringOfTwo() {
